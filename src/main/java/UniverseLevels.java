@@ -14,6 +14,7 @@ public final class UniverseLevels {
     private static final int MOST_UNDONE = 8;
     private static final int MOST_KEPT = 2;
     private static final int MOST_AGAINST = 3;
+    /** Three of sixteen BOUNDS. */
     private static final int MOST_CHOICES = 560;
     private static final int MOST_K = 9;
     private static final int MOST_X = 99;
@@ -386,11 +387,10 @@ public final class UniverseLevels {
 
     // ---- laying and asking
 
-    /** Needs a TEXT without FAULT. */
+    /** Needs a TEXT without FAULT: its first ITEM is a LEVEL, so that lengths are measured anew ahead of any BOUND. */
     private void layText() {
         now.levels = 0;
         now.bounds = 0;
-        lengths.measure(now);
         keptOnes = 0;
         max.size = 0;
         shown.size = 0;

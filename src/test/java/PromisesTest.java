@@ -444,6 +444,10 @@ public final class PromisesTest {
         DUE.is("i 3", levels.stands(3, 0, 0, 3), BAD);
         UniverseLevels shared = laid("v0;v0;v2;c0,1,1;c1,0,2;");
         DUE.are("the lower of two that do", against(shared, 2, -1, 0), 1, 0, NONE, NONE);
+        UniverseLevels last = laid("v0;v0;v0;" + "c0,0,1;".repeat(13) + "c1,0,2;".repeat(3));
+        DUE.are("the very last choice of three", against(last, 2, 1, 0), 3, 13, 14, 15);
+        UniverseLevels first = laid("v0;v0;v0;" + "c0,0,1;".repeat(3) + "c1,0,2;".repeat(13));
+        DUE.are("the very first choice of three", against(first, 2, 1, 0), 3, 0, 1, 2);
         UniverseLevels strict = laid("v2;v0;c0,0,1;");
         DUE.are("a strict one weighs 1 more", against(strict, 1, 0, 0), 1, 0, NONE, NONE);
         DUE.are("so less is let in", against(strict, 1, -1, 0), 0, NONE, NONE, NONE);
