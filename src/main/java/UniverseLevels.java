@@ -841,6 +841,7 @@ public final class UniverseLevels {
             return rest != NO_WAY && lengths.greatest[u][end] == state.weight[b] + rest;
         }
     }
+
     /** The fewest BOUNDS that stand against one that would be ASKED. */
     private static final class Against {
         private final int[] inTheWay = new int[MOST_BOUNDS];

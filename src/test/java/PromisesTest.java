@@ -37,52 +37,10 @@ public final class PromisesTest {
         DUE.end();
     }
 
-    private static void put(UniverseLevels levels, String text) {
-        levels.wipe();
-        for (char letter : text.toCharArray()) {
-            levels.write(letter);
-        }
-    }
-
-    private static UniverseLevels laid(String text) {
-        UniverseLevels levels = new UniverseLevels();
-        put(levels, text);
-        levels.lay();
-        return levels;
-    }
-
-    private static int faultOf(String text) {
-        UniverseLevels levels = new UniverseLevels();
-        put(levels, text);
-        return levels.fault();
-    }
-
-    private static int[] counts(UniverseLevels levels) {
-        int[] all = new int[10];
-        for (int what = 0; what < 10; what++) {
-            all[what] = levels.count(what);
-        }
-        return all;
-    }
-
-    private static int[] roundOf(UniverseLevels levels) {
-        int[] all = new int[Math.max(0, levels.round(-1))];
-        for (int i = 0; i < all.length; i++) {
-            all[i] = levels.round(i);
-        }
-        return all;
-    }
-
-    /** How many stand against a bound, then which. */
-    private static int[] against(UniverseLevels levels, int u, int k, int v) {
-        return new int[] {levels.stands(u, k, v, -1), levels.stands(u, k, v, 0), levels.stands(u, k, v, 1),
-                levels.stands(u, k, v, 2)};
-    }
-
     private static void newObject() {
         UniverseLevels levels = new UniverseLevels();
-        DUE.are("counts at first", counts(levels), 7, 7, 1, 4, 3, 0, 0, 0, 0, 21);
-        DUE.are("round at first", roundOf(levels), 0, 5, 6);
+        DUE.are("counts at first", Told.counts(levels), 7, 7, 1, 4, 3, 0, 0, 0, 0, 21);
+        DUE.are("round at first", Told.round(levels), 0, 5, 6);
         DUE.is("fault at first", levels.fault(), NONE);
         DUE.is("lay at first: the text is empty", levels.lay(), NO);
         DUE.is("levels after that", levels.count(0), 7);
@@ -107,44 +65,44 @@ public final class PromisesTest {
     private static void wipe() {
         UniverseLevels levels = new UniverseLevels();
         DUE.is("wipe an empty text", levels.wipe(), 0);
-        put(levels, "v0;v1");
+        Told.put(levels, "v0;v1");
         DUE.is("wipe", levels.wipe(), 5);
         DUE.is("letters after wipe", levels.count(8), 0);
         DUE.is("levels stay", levels.count(0), 7);
     }
 
     private static void fault() {
-        DUE.is("empty", faultOf(""), NONE);
-        DUE.is("all kinds", faultOf("v0;v1;v2;v3;c0,9,3;d3,0,9;"), NONE);
-        DUE.is("two figures", faultOf("v00;v03;c00,09,01;d1,0,00;"), NONE);
-        DUE.is("levels behind bounds", faultOf("v0;v0;c0,0,1;v0;c2,0,1;"), NONE);
-        DUE.is("kind 4", faultOf("v0;v4;"), 3);
-        DUE.is("kind 10", faultOf("v0;v10;"), 3);
-        DUE.is("three figures", faultOf("v0;v003;"), 3);
-        DUE.is("no figure", faultOf("v0;v;"), 3);
-        DUE.is("no end", faultOf("v0;v0"), 3);
-        DUE.is("end is ,", faultOf("v0;v0,"), 3);
-        DUE.is("only ;", faultOf(";"), 0);
-        DUE.is("space", faultOf("v0; v0;"), 3);
-        DUE.is("capital", faultOf("v0;V0;"), 3);
-        DUE.is("other letter", faultOf("v0;e0;"), 3);
-        DUE.is("sign", faultOf("v0;v0;c0,-1,1;"), 6);
-        DUE.is("ten levels", faultOf("v0;".repeat(10)), NONE);
-        DUE.is("eleven levels", faultOf("v0;".repeat(11)), 30);
-        DUE.is("alike in c", faultOf("v0;v0;c1,0,1;"), 6);
-        DUE.is("alike in d", faultOf("v0;v0;d1,1,0;"), 6);
-        DUE.is("no such from", faultOf("v0;v0;c2,0,1;"), 6);
-        DUE.is("no such to in c", faultOf("v0;v0;c0,0,2;"), 6);
-        DUE.is("no such to in d", faultOf("v0;v0;d0,2,0;"), 6);
-        DUE.is("level told behind", faultOf("v0;c0,0,1;v0;"), 3);
-        DUE.is("10 in c", faultOf("v0;v0;c0,10,1;"), 6);
-        DUE.is("10 in d", faultOf("v0;v0;d0,1,10;"), 6);
-        DUE.is("two numbers", faultOf("v0;v0;c0,1;"), 6);
-        DUE.is("four numbers", faultOf("v0;v0;c0,1,1,1;"), 6);
-        DUE.is("two numbers of a level", faultOf("v0,0;"), 0);
-        DUE.is("cut off", faultOf("v0;v0;c0,1,1"), 6);
-        DUE.is("; between", faultOf("v0;v0;c0;1,1;"), 6);
-        DUE.is("the first of two", faultOf("v0;x;y;"), 3);
+        DUE.is("empty", Told.faultOf(""), NONE);
+        DUE.is("all kinds", Told.faultOf("v0;v1;v2;v3;c0,9,3;d3,0,9;"), NONE);
+        DUE.is("two figures", Told.faultOf("v00;v03;c00,09,01;d1,0,00;"), NONE);
+        DUE.is("levels behind bounds", Told.faultOf("v0;v0;c0,0,1;v0;c2,0,1;"), NONE);
+        DUE.is("kind 4", Told.faultOf("v0;v4;"), 3);
+        DUE.is("kind 10", Told.faultOf("v0;v10;"), 3);
+        DUE.is("three figures", Told.faultOf("v0;v003;"), 3);
+        DUE.is("no figure", Told.faultOf("v0;v;"), 3);
+        DUE.is("no end", Told.faultOf("v0;v0"), 3);
+        DUE.is("end is ,", Told.faultOf("v0;v0,"), 3);
+        DUE.is("only ;", Told.faultOf(";"), 0);
+        DUE.is("space", Told.faultOf("v0; v0;"), 3);
+        DUE.is("capital", Told.faultOf("v0;V0;"), 3);
+        DUE.is("other letter", Told.faultOf("v0;e0;"), 3);
+        DUE.is("sign", Told.faultOf("v0;v0;c0,-1,1;"), 6);
+        DUE.is("ten levels", Told.faultOf("v0;".repeat(10)), NONE);
+        DUE.is("eleven levels", Told.faultOf("v0;".repeat(11)), 30);
+        DUE.is("alike in c", Told.faultOf("v0;v0;c1,0,1;"), 6);
+        DUE.is("alike in d", Told.faultOf("v0;v0;d1,1,0;"), 6);
+        DUE.is("no such from", Told.faultOf("v0;v0;c2,0,1;"), 6);
+        DUE.is("no such to in c", Told.faultOf("v0;v0;c0,0,2;"), 6);
+        DUE.is("no such to in d", Told.faultOf("v0;v0;d0,2,0;"), 6);
+        DUE.is("level told behind", Told.faultOf("v0;c0,0,1;v0;"), 3);
+        DUE.is("10 in c", Told.faultOf("v0;v0;c0,10,1;"), 6);
+        DUE.is("10 in d", Told.faultOf("v0;v0;d0,1,10;"), 6);
+        DUE.is("two numbers", Told.faultOf("v0;v0;c0,1;"), 6);
+        DUE.is("four numbers", Told.faultOf("v0;v0;c0,1,1,1;"), 6);
+        DUE.is("two numbers of a level", Told.faultOf("v0,0;"), 0);
+        DUE.is("cut off", Told.faultOf("v0;v0;c0,1,1"), 6);
+        DUE.is("; between", Told.faultOf("v0;v0;c0;1,1;"), 6);
+        DUE.is("the first of two", Told.faultOf("v0;x;y;"), 3);
     }
 
     private static void lay() {
@@ -152,18 +110,18 @@ public final class PromisesTest {
         levels.term(0, 1);
         levels.keep();
         levels.rename(0, 1);
-        put(levels, "v0;v4;");
+        Told.put(levels, "v0;v4;");
         DUE.is("lay with a fault", levels.lay(), NO);
-        DUE.are("nothing changes", counts(levels), 7, 7, 1, 4, 4, 1, 1, 1, 6, 21);
-        put(levels, "v0;v2;v3;c0,1,1;d2,0,3;c1,0,0;c0,9,2;c0,1,2;");
+        DUE.are("nothing changes", Told.counts(levels), 7, 7, 1, 4, 4, 1, 1, 1, 6, 21);
+        Told.put(levels, "v0;v2;v3;c0,1,1;d2,0,3;c1,0,0;c0,9,2;c0,1,2;");
         DUE.is("lay", levels.lay(), 3);
-        DUE.are("counts of what is laid", counts(levels), 3, 3, 2, 2, 1, 0, 0, 0, 44, 4);
+        DUE.are("counts of what is laid", Told.counts(levels), 3, 3, 2, 2, 1, 0, 0, 0, 44, 4);
         DUE.is("undo what was laid", levels.undo(), NO);
         DUE.is("back to what was kept ahead", levels.back(), NO);
-        DUE.are("round of the last one refused", roundOf(levels), 2, 0);
+        DUE.are("round of the last one refused", Told.round(levels), 2, 0);
         DUE.is("by how much: 8 less 3", levels.round(10), 5);
         DUE.is("lay once more", levels.lay(), 3);
-        put(levels, "v0;");
+        Told.put(levels, "v0;");
         DUE.is("lay one level", levels.lay(), 0);
         DUE.is("no round of it", levels.round(-1), NONE);
         DUE.is("none refused of it", levels.count(2), 0);
@@ -171,14 +129,14 @@ public final class PromisesTest {
     }
 
     private static void layMoreThanThereIsRoomFor() {
-        UniverseLevels levels = laid("v0;v0;" + "c0,0,1;".repeat(17) + "c1,1,0;" + "c1,0,0;");
+        UniverseLevels levels = Told.laid("v0;v0;" + "c0,0,1;".repeat(17) + "c1,1,0;" + "c1,0,0;");
         DUE.is("bounds taken", levels.count(1), 16);
         DUE.is("refused behind the full row", levels.count(2), 1);
         DUE.is("none back", levels.reach(1, 0), NONE);
     }
 
     private static void level() {
-        UniverseLevels levels = laid("v0;v1;v2;v3;v0;c0,0,1;c1,0,0;c4,2,0;c2,3,3;");
+        UniverseLevels levels = Told.laid("v0;v1;v2;v3;v0;c0,0,1;c1,0,0;c4,2,0;c2,3,3;");
         DUE.is("kind fixed", levels.level(0, 0), 0);
         DUE.is("kind floating", levels.level(1, 0), 1);
         DUE.is("kind strict", levels.level(2, 0), 2);
@@ -203,14 +161,14 @@ public final class PromisesTest {
         DUE.is("what 5", levels.level(0, 5), BAD);
         DUE.is("level -1", levels.level(-1, 0), BAD);
         DUE.is("level 5", levels.level(5, 0), BAD);
-        UniverseLevels apart = laid("v0;v0;c0,2,1;d1,0,2;");
+        UniverseLevels apart = Told.laid("v0;v0;c0,2,1;d1,0,2;");
         DUE.is("tied but not the same", apart.level(0, 3), 1);
-        UniverseLevels low = laid("v0;v0;d0,1,9;");
+        UniverseLevels low = Told.laid("v0;v0;d0,1,9;");
         DUE.is("no value below 0", low.level(1, 1), 0);
     }
 
     private static void bound() {
-        UniverseLevels levels = laid("v0;v0;v2;v3;c0,2,1;c0,1,1;c1,1,2;d1,3,9;d2,0,9;c0,4,2;");
+        UniverseLevels levels = Told.laid("v0;v0;v2;v3;c0,2,1;c0,1,1;c1,1,2;d1,3,9;d2,0,9;c0,4,2;");
         DUE.is("from", levels.bound(3, 0), 1);
         DUE.is("to", levels.bound(3, 1), 3);
         DUE.is("weight towards fixed", levels.bound(0, 2), 102);
@@ -226,15 +184,15 @@ public final class PromisesTest {
         DUE.is("number -1", levels.bound(-1, 0), BAD);
         DUE.is("what 5", levels.bound(0, 5), BAD);
         DUE.is("what -1", levels.bound(0, -1), BAD);
-        UniverseLevels twins = laid("v0;v0;c0,2,1;c0,2,1;");
+        UniverseLevels twins = Told.laid("v0;v0;c0,2,1;c0,2,1;");
         DUE.is("of twins the first is needless", twins.bound(0, 3), 1);
         DUE.is("of twins the second is needless", twins.bound(1, 3), 1);
-        UniverseLevels round = laid("v0;v0;v0;c0,1,1;c1,1,2;c0,2,2;");
+        UniverseLevels round = Told.laid("v0;v0;v0;c0,1,1;c1,1,2;c0,2,2;");
         DUE.is("needless by a way of two", round.bound(2, 3), 1);
     }
 
     private static void reach() {
-        UniverseLevels levels = laid("v0;v0;v0;v0;c0,1,1;c1,1,2;c0,1,2;d2,1,9;");
+        UniverseLevels levels = Told.laid("v0;v0;v0;v0;c0,1,1;c1,1,2;c0,1,2;d2,1,9;");
         DUE.is("the longer of two ways", levels.reach(0, 2), 1002);
         DUE.is("below 0", levels.reach(2, 1), 991);
         DUE.is("to itself", levels.reach(3, 3), 1000);
@@ -248,7 +206,7 @@ public final class PromisesTest {
     }
 
     private static void ask() {
-        UniverseLevels levels = laid("v0;v1;v2;v3;");
+        UniverseLevels levels = Told.laid("v0;v1;v2;v3;");
         DUE.is("towards fixed", levels.ask(1, -9, 0), 0);
         DUE.is("towards floating", levels.ask(0, 9, 1), 1);
         DUE.is("round of 1", levels.ask(1, -8, 0), NO);
@@ -277,7 +235,7 @@ public final class PromisesTest {
     }
 
     private static void retract() {
-        UniverseLevels levels = laid("v0;v0;v0;c0,1,1;c1,2,2;c0,4,2;");
+        UniverseLevels levels = Told.laid("v0;v0;v0;c0,1,1;c1,2,2;c0,4,2;");
         DUE.is("bad below", levels.retract(-1), BAD);
         DUE.is("bad above", levels.retract(3), BAD);
         DUE.is("the middle one", levels.retract(1), 2);
@@ -293,7 +251,7 @@ public final class PromisesTest {
     }
 
     private static void rename() {
-        UniverseLevels levels = laid("v0;v3;c0,5,1;");
+        UniverseLevels levels = Told.laid("v0;v3;c0,5,1;");
         DUE.is("as it is", levels.rename(1, 3), NO);
         DUE.is("that is no act", levels.count(6), 0);
         DUE.is("to strict", levels.rename(1, 2), 3);
@@ -308,7 +266,7 @@ public final class PromisesTest {
     }
 
     private static void undo() {
-        UniverseLevels levels = laid("v0;v0;v0;c0,1,1;c1,2,2;c0,4,2;");
+        UniverseLevels levels = Told.laid("v0;v0;v0;c0,1,1;c1,2,2;c0,4,2;");
         DUE.is("nothing to undo", levels.undo(), NO);
         levels.retract(0);
         levels.rename(2, 3);
@@ -327,7 +285,7 @@ public final class PromisesTest {
         DUE.is("the one behind it", levels.bound(1, 2), 102);
         DUE.is("reach is back", levels.reach(0, 1), 1001);
         DUE.is("refused stays", levels.count(2), 1);
-        DUE.are("round stays", roundOf(levels), 1, 0);
+        DUE.are("round stays", Told.round(levels), 1, 0);
         DUE.is("terms stay", levels.count(5), 1);
         for (int i = 0; i < 10; i++) {
             levels.rename(0, i % 2 + 1);
@@ -341,40 +299,40 @@ public final class PromisesTest {
     }
 
     private static void round() {
-        UniverseLevels levels = laid("v0;v0;v0;v0;v0;c0,1,3;c3,1,4;c0,1,2;c2,1,4;c0,2,1;c1,0,4;c0,0,4;");
+        UniverseLevels levels = Told.laid("v0;v0;v0;v0;v0;c0,1,3;c3,1,4;c0,1,2;c2,1,4;c0,2,1;c1,0,4;c0,0,4;");
         for (int i = -1; i <= 10; i++) {
             DUE.is("none was refused " + i, levels.round(i), NONE);
         }
         DUE.is("-2", levels.round(-2), BAD);
         DUE.is("11", levels.round(11), BAD);
         levels.ask(4, 3, 0);
-        DUE.are("the lowest second one of three ways", roundOf(levels), 0, 1, 4);
+        DUE.are("the lowest second one of three ways", Told.round(levels), 0, 1, 4);
         DUE.is("above", levels.round(10), 5);
         DUE.is("not so many", levels.round(3), NONE);
         DUE.is("not so many either", levels.round(9), NONE);
         DUE.is("-2 still", levels.round(-2), BAD);
         DUE.is("11 still", levels.round(11), BAD);
         levels.retract(4);
-        DUE.are("the round stays as it was", roundOf(levels), 0, 1, 4);
+        DUE.are("the round stays as it was", Told.round(levels), 0, 1, 4);
         levels.ask(4, -1, 0);
-        DUE.are("then the next lowest", roundOf(levels), 0, 2, 4);
+        DUE.are("then the next lowest", Told.round(levels), 0, 2, 4);
         DUE.is("above by 1", levels.round(10), 1);
         levels.ask(0, 2, 4);
         levels.ask(4, 0, 0);
-        DUE.are("fewest bounds come first", roundOf(levels), 0, 4);
+        DUE.are("fewest bounds come first", Told.round(levels), 0, 4);
         levels.ask(3, 2, 4);
         levels.ask(4, 0, 0);
-        DUE.are("but greatest length before that", roundOf(levels), 0, 3, 4);
-        UniverseLevels third = laid("v0;v0;v0;v0;v0;c4,0,1;c1,0,3;c3,0,0;c1,0,2;c2,0,0;c2,0,1;c0,1,4;");
-        DUE.are("the lowest third one, there being a round of 0", roundOf(third), 4, 1, 2, 0);
-        UniverseLevels longest = laid("v0;".repeat(10) + "c9,0,8;c8,0,7;c7,0,6;c6,0,5;c5,0,4;c4,0,3;c3,0,2;c2,0,1;"
+        DUE.are("but greatest length before that", Told.round(levels), 0, 3, 4);
+        UniverseLevels third = Told.laid("v0;v0;v0;v0;v0;c4,0,1;c1,0,3;c3,0,0;c1,0,2;c2,0,0;c2,0,1;c0,1,4;");
+        DUE.are("the lowest third one, there being a round of 0", Told.round(third), 4, 1, 2, 0);
+        UniverseLevels longest = Told.laid("v0;".repeat(10) + "c9,0,8;c8,0,7;c7,0,6;c6,0,5;c5,0,4;c4,0,3;c3,0,2;c2,0,1;"
                 + "c1,0,0;c0,1,9;");
-        DUE.are("ten levels", roundOf(longest), 9, 8, 7, 6, 5, 4, 3, 2, 1, 0);
+        DUE.are("ten levels", Told.round(longest), 9, 8, 7, 6, 5, 4, 3, 2, 1, 0);
         DUE.is("above of ten levels", longest.round(10), 1);
     }
 
     private static void follows() {
-        UniverseLevels levels = laid("v0;v2;v0;c0,4,1;");
+        UniverseLevels levels = Told.laid("v0;v2;v0;c0,4,1;");
         DUE.is("as much", levels.follows(0, 5, 1), 1);
         DUE.is("more", levels.follows(0, 6, 1), 0);
         DUE.is("less", levels.follows(0, -9, 1), 1);
@@ -391,7 +349,7 @@ public final class PromisesTest {
     }
 
     private static void raised() {
-        UniverseLevels levels = laid("v0;v0;v0;c0,3,1;c2,5,1;");
+        UniverseLevels levels = Told.laid("v0;v0;v0;c0,3,1;c2,5,1;");
         DUE.is("not yet more", levels.raised(0, 2, 1), 5);
         DUE.is("more", levels.raised(0, 3, 1), 6);
         DUE.is("the greatest", levels.raised(0, 99, 1), 102);
@@ -407,7 +365,7 @@ public final class PromisesTest {
     }
 
     private static void top() {
-        UniverseLevels levels = laid("v0;v0;v0;c0,3,1;d2,1,5;");
+        UniverseLevels levels = Told.laid("v0;v0;v0;c0,3,1;d2,1,5;");
         DUE.is("below by 3", levels.top(1, 7, 0), 1004);
         DUE.is("just possible", levels.top(1, 3, 0), 1000);
         DUE.is("too low", levels.top(1, 2, 0), NONE);
@@ -424,13 +382,13 @@ public final class PromisesTest {
     }
 
     private static void stands() {
-        UniverseLevels levels = laid("v0;v0;v0;v0;c0,1,1;c1,1,3;c0,1,2;c2,1,3;c0,1,3;d0,3,9;");
-        DUE.are("none needed", against(levels, 3, -2, 0), 0, NONE, NONE, NONE);
-        DUE.are("two ways of 2", against(levels, 3, -1, 0), 2, 0, 2, NONE);
-        DUE.are("and one of 1", against(levels, 3, 0, 0), 3, 0, 2, 4);
-        DUE.are("that of -9 leaves room for 9", against(levels, 3, 9, 0), 3, 0, 2, 4);
+        UniverseLevels levels = Told.laid("v0;v0;v0;v0;c0,1,1;c1,1,3;c0,1,2;c2,1,3;c0,1,3;d0,3,9;");
+        DUE.are("none needed", Told.against(levels, 3, -2, 0), 0, NONE, NONE, NONE);
+        DUE.are("two ways of 2", Told.against(levels, 3, -1, 0), 2, 0, 2, NONE);
+        DUE.are("and one of 1", Told.against(levels, 3, 0, 0), 3, 0, 2, 4);
+        DUE.are("that of -9 leaves room for 9", Told.against(levels, 3, 9, 0), 3, 0, 2, 4);
         levels.ask(0, 1, 3);
-        DUE.are("four are too many", against(levels, 3, 0, 0), NONE, NONE, NONE, NONE);
+        DUE.are("four are too many", Told.against(levels, 3, 0, 0), NONE, NONE, NONE, NONE);
         DUE.is("nothing is taken back", levels.count(1), 7);
         DUE.is("nor refused", levels.count(2), 0);
         DUE.is("alike", levels.stands(1, 0, 1, -1), BAD);
@@ -442,19 +400,19 @@ public final class PromisesTest {
         DUE.is("to -1", levels.stands(0, 0, -1, -1), BAD);
         DUE.is("i -2", levels.stands(3, 0, 0, -2), BAD);
         DUE.is("i 3", levels.stands(3, 0, 0, 3), BAD);
-        UniverseLevels shared = laid("v0;v0;v2;c0,1,1;c1,0,2;");
-        DUE.are("the lower of two that do", against(shared, 2, -1, 0), 1, 0, NONE, NONE);
-        UniverseLevels last = laid("v0;v0;v0;" + "c0,0,1;".repeat(13) + "c1,0,2;".repeat(3));
-        DUE.are("the very last choice of three", against(last, 2, 1, 0), 3, 13, 14, 15);
-        UniverseLevels first = laid("v0;v0;v0;" + "c0,0,1;".repeat(3) + "c1,0,2;".repeat(13));
-        DUE.are("the very first choice of three", against(first, 2, 1, 0), 3, 0, 1, 2);
-        UniverseLevels strict = laid("v2;v0;c0,0,1;");
-        DUE.are("a strict one weighs 1 more", against(strict, 1, 0, 0), 1, 0, NONE, NONE);
-        DUE.are("so less is let in", against(strict, 1, -1, 0), 0, NONE, NONE, NONE);
+        UniverseLevels shared = Told.laid("v0;v0;v2;c0,1,1;c1,0,2;");
+        DUE.are("the lower of two that do", Told.against(shared, 2, -1, 0), 1, 0, NONE, NONE);
+        UniverseLevels last = Told.laid("v0;v0;v0;" + "c0,0,1;".repeat(13) + "c1,0,2;".repeat(3));
+        DUE.are("the very last choice of three", Told.against(last, 2, 1, 0), 3, 13, 14, 15);
+        UniverseLevels first = Told.laid("v0;v0;v0;" + "c0,0,1;".repeat(3) + "c1,0,2;".repeat(13));
+        DUE.are("the very first choice of three", Told.against(first, 2, 1, 0), 3, 0, 1, 2);
+        UniverseLevels strict = Told.laid("v2;v0;c0,0,1;");
+        DUE.are("a strict one weighs 1 more", Told.against(strict, 1, 0, 0), 1, 0, NONE, NONE);
+        DUE.are("so less is let in", Told.against(strict, 1, -1, 0), 0, NONE, NONE, NONE);
     }
 
     private static void term() {
-        UniverseLevels levels = laid("v0;v0;");
+        UniverseLevels levels = Told.laid("v0;v0;");
         DUE.is("10", levels.term(0, 10), BAD);
         DUE.is("-10", levels.term(0, -10), BAD);
         DUE.is("level 2", levels.term(2, 0), BAD);
@@ -468,7 +426,7 @@ public final class PromisesTest {
     }
 
     private static void empty() {
-        UniverseLevels levels = laid("v0;v0;");
+        UniverseLevels levels = Told.laid("v0;v0;");
         DUE.is("none", levels.empty(), 0);
         levels.term(0, 1);
         levels.term(0, 2);
@@ -478,7 +436,7 @@ public final class PromisesTest {
     }
 
     private static void brief() {
-        UniverseLevels levels = laid("v0;v0;v0;c0,2,1;c1,0,2;c2,0,1;");
+        UniverseLevels levels = Told.laid("v0;v0;v0;c0,2,1;c1,0,2;c2,0,1;");
         DUE.is("no term", levels.brief(), 0);
         levels.term(0, 2);
         DUE.is("one", levels.brief(), 1);
@@ -492,7 +450,7 @@ public final class PromisesTest {
         DUE.is("the very same once more", levels.brief(), 10);
         levels.term(1, 1);
         DUE.is("one that covers all", levels.brief(), 32);
-        UniverseLevels wide = laid("v0;v0;v0;d0,2,9;d2,1,9;");
+        UniverseLevels wide = Told.laid("v0;v0;v0;d0,2,9;d2,1,9;");
         wide.term(0, -9);
         wide.term(1, 9);
         DUE.is("18 apart", wide.brief(), 2);
@@ -503,7 +461,7 @@ public final class PromisesTest {
     }
 
     private static void below() {
-        UniverseLevels levels = laid("v0;v0;v0;c0,2,1;c2,0,1;");
+        UniverseLevels levels = Told.laid("v0;v0;v0;c0,2,1;c2,0,1;");
         DUE.is("no term", levels.below(0, -9), 1);
         levels.term(0, 3);
         DUE.is("just", levels.below(1, 1), 1);
@@ -520,7 +478,7 @@ public final class PromisesTest {
     }
 
     private static void worth() {
-        UniverseLevels levels = laid("v0;v0;c0,2,1;");
+        UniverseLevels levels = Told.laid("v0;v0;c0,2,1;");
         DUE.is("no term", levels.worth(), 0);
         levels.term(1, -9);
         DUE.is("none below 0", levels.worth(), 0);
@@ -532,7 +490,7 @@ public final class PromisesTest {
     }
 
     private static void roots() {
-        UniverseLevels levels = laid("v0;v2;v1;v3;v0;v1;c0,2,2;c1,0,2;d2,3,0;c4,9,3;");
+        UniverseLevels levels = Told.laid("v0;v2;v1;v3;v0;v1;c0,2,2;c1,0,2;d2,3,0;c4,9,3;");
         DUE.is("two roots, none covered", levels.roots(2), 3);
         DUE.is("over a floating one, and its own", levels.roots(3), 19);
         DUE.is("no root", levels.roots(5), 0);
@@ -548,14 +506,14 @@ public final class PromisesTest {
         DUE.is("0 and 2 is below 1: that one", levels.roots(2), 2);
         levels.rename(0, 1);
         DUE.is("one root less", levels.roots(2), 2);
-        UniverseLevels covered = laid("v0;v0;v1;c0,1,1;c1,1,2;");
+        UniverseLevels covered = Told.laid("v0;v0;v1;c0,1,1;c1,1,2;");
         DUE.is("covered by the one between", covered.roots(2), 2);
         covered.ask(1, -1, 0);
         DUE.is("of two that are the same the lower", covered.roots(2), 1);
     }
 
     private static void loose() {
-        UniverseLevels levels = laid("v1;v1;v3;v0;v3;v2;c0,1,1;c2,1,3;c3,1,4;");
+        UniverseLevels levels = Told.laid("v1;v1;v3;v0;v3;v2;c0,1,1;c2,1,3;c3,1,4;");
         DUE.is("among floating ones", levels.loose(0, 0), 1);
         DUE.is("among floating ones, above", levels.loose(1, 0), 1);
         DUE.is("a way to a fixed one", levels.loose(2, 0), 0);
@@ -574,12 +532,12 @@ public final class PromisesTest {
         DUE.is("what 2 of a fixed one", levels.loose(3, 2), BAD);
         DUE.is("level 6", levels.loose(6, 0), BAD);
         DUE.is("level -1", levels.loose(-1, 0), BAD);
-        UniverseLevels near = laid("v0;v1;c0,2,1;d1,0,3;");
+        UniverseLevels near = Told.laid("v0;v1;c0,2,1;d1,0,3;");
         DUE.is("one short of being pinned", near.loose(1, 1), 0);
     }
 
     private static void keepAndBack() {
-        UniverseLevels levels = laid("v0;v0;v0;c0,1,1;c1,2,2;");
+        UniverseLevels levels = Told.laid("v0;v0;v0;c0,1,1;c1,2,2;");
         DUE.is("nothing kept", levels.back(), NO);
         DUE.is("keep", levels.keep(), 1);
         levels.retract(0);
@@ -598,7 +556,7 @@ public final class PromisesTest {
         DUE.is("nothing can be undone", levels.undo(), NO);
         DUE.is("refused stays", levels.count(2), 1);
         DUE.is("terms stay", levels.count(5), 1);
-        DUE.are("round stays", roundOf(levels), 1, 2);
+        DUE.are("round stays", Told.round(levels), 1, 2);
         levels.retract(0);
         DUE.is("back to the first", levels.back(), 0);
         DUE.is("its bounds", levels.count(1), 2);
@@ -612,11 +570,11 @@ public final class PromisesTest {
     }
 
     private static void count() {
-        UniverseLevels levels = laid("v0;v1;v3;v2;c0,9,1;c1,9,2;d2,0,9;c1,0,0;");
+        UniverseLevels levels = Told.laid("v0;v1;v3;v2;c0,9,1;c1,9,2;d2,0,9;c1,0,0;");
         levels.term(0, 0);
         levels.rename(3, 3);
         levels.keep();
-        DUE.are("counts", counts(levels), 4, 2, 2, 17, 3, 1, 1, 1, 40, 3);
+        DUE.are("counts", Told.counts(levels), 4, 2, 2, 17, 3, 1, 1, 1, 40, 3);
         DUE.is("10", levels.count(10), BAD);
         DUE.is("-1", levels.count(-1), BAD);
         levels.ask(1, -9, 0);
