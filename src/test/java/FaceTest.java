@@ -28,6 +28,7 @@ public final class FaceTest {
         methods();
         fieldsAndConstructors();
         String root = args.length > 0 ? args[0] : ".";
+        classesInside();
         source(Files.readString(Path.of(root, "src/main/java/UniverseLevels.java")));
         DUE.end();
     }
@@ -74,12 +75,60 @@ public final class FaceTest {
         DUE.is("NONE", UniverseLevels.NONE, -4);
     }
 
+    /** Rules 1, 2 and 11: few classes, private or package-visible and static, none too wide. */
+    private static void classesInside() {
+        Class<?>[] inside = UniverseLevels.class.getDeclaredClasses();
+        DUE.is("classes are more than twelve", inside.length > 11 ? 1 : 0, 0);
+        DUE.is("too many fields", fieldsOf(UniverseLevels.class) > 20 ? 1 : 0, 0);
+        for (Class<?> one : inside) {
+            DUE.is(one + " is static", Modifier.isStatic(one.getModifiers()) ? 1 : 0, 1);
+            DUE.is(one + " is open", one.getModifiers() & (Modifier.PUBLIC | Modifier.PROTECTED), 0);
+            DUE.is(one + " holds a class", one.getDeclaredClasses().length, 0);
+            DUE.is(one + " has too many fields", fieldsOf(one) > 20 ? 1 : 0, 0);
+            for (Method method : one.getDeclaredMethods()) {
+                DUE.is(method + " bears a name of the face", isOfFace(method.getName()) ? 1 : 0, 0);
+                DUE.is(method + " takes too much", method.getParameterCount() > 7 ? 1 : 0, 0);
+            }
+        }
+    }
+
+    private static int fieldsOf(Class<?> one) {
+        int many = 0;
+        for (Field field : one.getDeclaredFields()) {
+            many += Modifier.isStatic(field.getModifiers()) ? 0 : 1;
+        }
+        return many;
+    }
+
+    private static boolean isOfFace(String name) {
+        for (String one : FACE) {
+            if (one.startsWith(name + "/")) {
+                return true;
+            }
+        }
+        return false;
+    }
+
+    /** All calls live in one room: what an object needs is made with it, and no call makes more. */
+    private static void nothingIsMadeByCalls(String code) {
+        int from = code.indexOf("public UniverseLevels() {");
+        int to = code.indexOf("\n    }\n", from);
+        DUE.is("no constructor was found", from < 0 || to < 0 ? 1 : 0, 0);
+        String outside = code.substring(0, Math.max(0, from)) + code.substring(Math.max(0, to));
+        for (String line : outside.split("\n")) {
+            if (line.contains("new ")) {
+                DUE.is("made by a call: " + line, line.matches(" +private final \\S+ \\w+ = new .*;") ? 1 : 0, 1);
+            }
+        }
+    }
+
     private static void source(String source) {
         String code = source.replaceAll("(?s)/\\*.*?\\*/", "").replaceAll("//[^\n]*", "");
         for (String pattern : OUTSIDE) {
             Matcher matcher = Pattern.compile(pattern).matcher(code);
             DUE.is("outside the rules: " + pattern, matcher.find() ? 1 : 0, 0);
         }
+        nothingIsMadeByCalls(code);
         int longest = 0;
         Matcher method = Pattern.compile("(?ms)^( {4,8})(?:private|public) [^;=]*?\\) \\{$.*?^\\1\\}$").matcher(source);
         while (method.find()) {

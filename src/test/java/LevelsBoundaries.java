@@ -12,7 +12,8 @@ final class LevelsBoundaries {
     static void promise01IsLaidAtFirst(Due due) {
         UniverseLevels levels = new UniverseLevels();
         due.are("kinds", Told.kinds(levels), 0, 1, 0, 3, 2, 1, 0);
-        due.are("bounds", Told.bounds(levels), 0, 1, 101, 1, 3, 99, 3, 2, 98, 2, 4, 102, 4, 5, 102, 0, 5, 103, 5, 6, 99);
+        due.are("bounds", Told.bounds(levels),
+                0, 1, 101, 1, 3, 99, 3, 2, 98, 2, 4, 102, 4, 5, 102, 0, 5, 103, 5, 6, 99);
         due.are("values", Told.values(levels), 0, 1, 0, 0, 2, 4, 3);
         due.are("round of the one refused", Told.round(levels), 0, 5, 6);
         due.is("by how much", levels.round(10), 2);
@@ -140,7 +141,7 @@ final class LevelsBoundaries {
             due.is(letter + " of one number", Told.faultOf("v0;v0;" + letter + "0;"), letter == 'v' ? NONE : 6);
             due.is(letter + " of three", Told.faultOf("v0;v0;" + letter + "0,5,1;"), letter == 'c' ? NONE : 6);
             due.is(letter + " of three, d", Told.faultOf("v0;v0;" + letter + "0,1,5;"), letter == 'd' ? NONE : 6);
-            due.is(letter + " behind a bound", Told.faultOf("v0;v0;c0,0,1;" + letter + "1;"), letter == 'v' ? NONE : 13);
+            due.is(letter + " behind c", Told.faultOf("v0;v0;c0,0,1;" + letter + "1;"), letter == 'v' ? NONE : 13);
         }
     }
 
